@@ -1,0 +1,56 @@
+/** Compares answers with those that are due, prints each that is not, and ends with exit code 1 if there was one. */
+final class Checks {
+    interface Call {
+        long answer();
+    }
+
+    private final String part;
+    private int compared = 0;
+    private int wrong = 0;
+
+    Checks(String part) {
+        this.part = part;
+    }
+
+    void same(String call, long due, long got) {
+        compared++;
+        if (got != due) {
+            tell(call + " answered " + got + ", due is " + due);
+        }
+    }
+
+    void sameDouble(String call, double due, double got) {
+        compared++;
+        if (Double.compare(got, due) != 0) {
+            tell(call + " answered " + got + ", due is " + due);
+        }
+    }
+
+    void throwing(String call, Class<? extends RuntimeException> due, Call made) {
+        compared++;
+        try {
+            long got = made.answer();
+            tell(call + " answered " + got + ", due is " + due.getName());
+        } catch (RuntimeException e) {
+            if (e.getClass() != due) {
+                tell(call + " threw " + e + ", due is " + due.getName());
+            }
+        }
+    }
+
+    int wrongSoFar() {
+        return wrong;
+    }
+
+    private void tell(String text) {
+        wrong++;
+        System.out.println(part + ": " + text);
+    }
+
+    void end() {
+        System.out.println(part + ": " + compared + " compared, " + wrong + " wrong");
+        if (wrong != 0 || compared == 0) {
+            System.exit(1);
+        }
+    }
+}
