@@ -462,8 +462,8 @@ public final class PairedTumblers {
     }
 
     /**
-     * The bits of a share that is not negative. They are told by hand, since LANGUAGE.md's library
-     * has no doubleToLongBits; halving, doubling and taking 1 away are exact.
+     * The bits of a share, 0 to 1. They are told by hand, since LANGUAGE.md's library
+     * has no doubleToLongBits; doubling and taking 1 away are exact.
      */
     private static long doubleBits(double share) {
         if (!(share > 0.0)) {
@@ -475,14 +475,10 @@ public final class PairedTumblers {
             rest = rest * 2.0;
             exponent--;
         }
-        for (int i = 0; i < EXPONENT_BOUND && rest >= 2.0; i++) {
-            rest = rest / 2.0;
-            exponent++;
-        }
         return (exponent << 52) | (long) ((rest - 1.0) * 4503599627370496.0);
     }
 
-    /** As doubleBits, in a float's form. */
+    /** As doubleBits, in a float's form; a mean notch may be up to 4, and halving is exact too. */
     private static int floatBits(float mean) {
         if (!(mean > 0.0f)) {
             return 0;
