@@ -4,12 +4,19 @@ final class Checks {
         long answer();
     }
 
-    private final String part;
+    private final String name;
+    private String part;
     private int compared = 0;
     private int wrong = 0;
 
-    Checks(String part) {
-        this.part = part;
+    Checks(String name) {
+        this.name = name;
+        this.part = name;
+    }
+
+    /** From now on what is wrong is told with this part's name. */
+    void begin(String newPart) {
+        part = newPart;
     }
 
     void same(String call, long due, long got) {
@@ -26,6 +33,13 @@ final class Checks {
         }
     }
 
+    void sameText(String call, String due, String got) {
+        compared++;
+        if (!got.equals(due)) {
+            tell(call + " told\n  " + got + "\ndue is\n  " + due);
+        }
+    }
+
     void throwing(String call, Class<? extends RuntimeException> due, Call made) {
         compared++;
         try {
@@ -38,17 +52,21 @@ final class Checks {
         }
     }
 
+    int comparedSoFar() {
+        return compared;
+    }
+
     int wrongSoFar() {
         return wrong;
     }
 
-    private void tell(String text) {
+    void tell(String text) {
         wrong++;
         System.out.println(part + ": " + text);
     }
 
     void end() {
-        System.out.println(part + ": " + compared + " compared, " + wrong + " wrong");
+        System.out.println(name + ": " + compared + " compared, " + wrong + " wrong");
         if (wrong != 0 || compared == 0) {
             System.exit(1);
         }

@@ -1,14 +1,7 @@
 import java.util.function.ToLongFunction;
 
 /** Each promise of the document by itself: ordinary inputs, the edges it names, wrong inputs; the answers reckoned by hand. */
-public final class PromisesTest {
-    private static final Class<IndexOutOfBoundsException> INDEX = IndexOutOfBoundsException.class;
-    private static final Class<IllegalArgumentException> ARGUMENT = IllegalArgumentException.class;
-    private static final Class<IllegalStateException> STATE = IllegalStateException.class;
-
-    private static final int LEAST = Integer.MIN_VALUE;
-    private static final int MOST = Integer.MAX_VALUE;
-
+public final class PromisesTest extends Locks {
     private static final Checks checks = new Checks("promises");
 
     public static void main(String[] args) {
@@ -56,41 +49,6 @@ public final class PromisesTest {
         long ahead = x.digest();
         checks.throwing(call, due, () -> made.applyAsLong(x));
         same("digest() behind the exception of " + call, ahead, x.digest());
-    }
-
-    private static void write(PairedTumblers x, String text) {
-        x.clearBuffer();
-        for (char sign : text.toCharArray()) {
-            x.append(sign);
-        }
-    }
-
-    private static PairedTumblers with(String text) {
-        PairedTumblers x = new PairedTumblers();
-        write(x, text);
-        return x;
-    }
-
-    private static int doWord(PairedTumblers x, String text) {
-        write(x, text);
-        return x.word();
-    }
-
-    /** The discs from position 0 to 5, as the figures of a number. */
-    private static int discs(PairedTumblers x) {
-        return row(x, 0);
-    }
-
-    private static int notches(PairedTumblers x) {
-        return row(x, 1);
-    }
-
-    private static int row(PairedTumblers x, int what) {
-        int number = 0;
-        for (int p = 0; p < 6; p++) {
-            number = 10 * number + x.at(p, what);
-        }
-        return number;
     }
 
     // ---- promise 1
