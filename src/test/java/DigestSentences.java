@@ -1,3 +1,5 @@
+import java.util.function.Supplier;
+
 /** Promise 25: digest, value by value of the list that the document tells. */
 final class DigestSentences extends SentenceTests {
     private long hash;
@@ -10,22 +12,15 @@ final class DigestSentences extends SentenceTests {
     void all() {
         under("Promise 25: digest");
         holds("Computes a hash of the whole state.", this::eachCallIsSeen);
-        holds("The hash starts at 3769.", () -> digestIs("of a new object", fresh(), 0, ""));
+        holds("The hash starts at 3769.", () -> digestIs("of a new object", Locks::fresh, 0, ""));
         holds("For each value v of the following list, in order, the hash becomes 31 * hash + v, "
-            + "in long arithmetic with overflow.", () -> digestIs("of a busy lock", busy(), 1, "[a,b"));
+            + "in long arithmetic with overflow.", () -> digestIs("of a busy lock", Locks::busy, 1, "[a,b"));
         holds("The values are: count(0) to count(9)", this::counts);
         holds("for each position its numbers 0 to 4", this::positions);
         holds("for each key its numbers 0 to 5, and ifTurned with 0 and 1", this::keys);
         holds("for each first key and each second key pair with 0 to 4", this::pairs);
         holds("openIn with 0 and 1", this::opening);
-        holds("closest", () -> {
-            for (int k = 0; k < 4; k++) {
-                PairedTumblers x = new PairedTumblers();
-                x.cut(k, 3, 0);
-                x.cut(4, 12, 0);
-                digestIs("with keys " + k + " and 4 apart", x, 0, "");
-            }
-        });
+        holds("closest", this::closestKeys);
         holds("the bits of openShare (as Double.doubleToLongBits)", this::shares);
         holds("the bits of meanNotch (as Float.floatToIntBits)", this::means);
         holds("1 if there is a snapshot, otherwise 0", this::snapshots);
@@ -35,7 +30,9 @@ final class DigestSentences extends SentenceTests {
 
     // ---- the hash as the document tells it
 
-    private void digestIs(String call, PairedTumblers x, int snapshots, String buffer) {
+    /** Each lock is made anew, since so many looks are nearly half of the calls that an object is good for. */
+    private void digestIs(String call, Supplier<PairedTumblers> made, int snapshots, String buffer) {
+        PairedTumblers x = made.get();
         hash = 3769;
         addCountsAndPositions(x);
         addKeysAndPairs(x);
@@ -111,103 +108,150 @@ final class DigestSentences extends SentenceTests {
         }
     }
 
-    private void counts() {
+    private static PairedTumblers learnt(String letters) {
         PairedTumblers x = new PairedTumblers();
         x.learn();
-        for (int i = 0; i < 8; i++) {
-            doLetters(x, i % 2 == 0 ? "a" : "A");
-            digestIs("behind " + (i + 1) + " turns, some that open", x, 0, "");
+        doLetters(x, letters);
+        return x;
+    }
+
+    private void counts() {
+        String openings = "aAaAaAaA";
+        for (int i = 0; i <= openings.length(); i++) {
+            String letters = openings.substring(0, i);
+            digestIs("behind " + letters, () -> learnt(letters), 0, "");
         }
-        for (int left = 5; left >= 0; left--) {
+        for (int i = 1; i <= 6; i++) {
+            int undone = i;
+            digestIs("behind " + undone + " undo()", () -> undo(learnt(openings), undone), 0, "");
+        }
+    }
+
+    private static PairedTumblers undo(PairedTumblers x, int times) {
+        for (int i = 0; i < times; i++) {
             x.undo();
-            digestIs("with " + left + " saved", x, 0, "");
         }
+        return x;
     }
 
     private void positions() {
+        for (int i = 0; i <= 6; i++) {
+            int stuck = i;
+            digestIs("with " + stuck + " stuck", () -> elsewhere(stuck), 0, "");
+        }
+        digestIs("at home, elsewhere than the secret", () -> {
+            PairedTumblers x = elsewhere(0);
+            x.home();
+            return x;
+        }, 0, "");
+    }
+
+    /** The secret is not at home, and some of the discs are not as in the secret. */
+    private static PairedTumblers elsewhere(int stuck) {
         PairedTumblers x = new PairedTumblers();
         doLetters(x, "abC");
         x.learn();
-        for (int p = 0; p < 6; p++) {
+        x.turn(3);
+        for (int p = 0; p < stuck; p++) {
             x.stick(p);
-            digestIs("with " + (p + 1) + " stuck", x, 0, "");
         }
-        x.home();
-        digestIs("at home, elsewhere than the secret", x, 0, "");
+        return x;
     }
 
     private void keys() {
-        PairedTumblers x = new PairedTumblers();
-        x.learn();
-        for (int k = 0; k < 5; k++) {
-            x.turn(k);
-            x.cut(k, 63 >> k % 3, k);
-            digestIs("with key " + k + " cut anew", x, 0, "");
+        for (int i = 0; i <= 5; i++) {
+            int changed = i;
+            digestIs("with " + changed + " keys cut anew", () -> {
+                PairedTumblers x = learnt("");
+                for (int k = 0; k < changed; k++) {
+                    x.turn(k);
+                    x.cut(k, 63 >> k % 3, k);
+                }
+                return x;
+            }, 0, "");
         }
     }
 
     private void pairs() {
-        for (int second : new int[] {3, 6, 12, 63}) {
-            for (int strength = 0; strength <= 4; strength++) {
-                PairedTumblers x = cutAlike(3, strength);
-                x.cut(1, second, 2);
-                x.cut(3, 56, strength);
-                digestIs("with keys 3, " + second + " and 56", x, 0, "");
+        for (int positions : new int[] {3, 6, 12, 63}) {
+            for (int i = 0; i <= 4; i++) {
+                int strength = i;
+                digestIs("with keys 3, " + positions + " and 56", () -> {
+                    PairedTumblers x = cutAlike(3, strength);
+                    x.cut(1, positions, 2);
+                    x.cut(3, 56, strength);
+                    return x;
+                }, 0, "");
             }
         }
     }
 
     private void opening() {
-        PairedTumblers x = new PairedTumblers();
-        digestIs("without a secret", x, 0, "");
-        x.learn();
-        digestIs("open", x, 0, "");
-        for (char letter : "eBaDb".toCharArray()) {
-            doLetters(x, "" + letter);
-            digestIs("behind " + letter, x, 0, "");
+        digestIs("without a secret", Locks::fresh, 0, "");
+        for (int i = 0; i <= 5; i++) {
+            String letters = "eBaDb".substring(0, i);
+            digestIs("behind " + letters, () -> learnt(letters), 0, "");
         }
     }
 
+    private void closestKeys() {
+        for (int i = 0; i < 4; i++) {
+            int key = i;
+            digestIs("with keys " + key + " and 4 apart", () -> {
+                PairedTumblers x = new PairedTumblers();
+                x.cut(key, 3, 0);
+                x.cut(4, 12, 0);
+                return x;
+            }, 0, "");
+        }
+    }
+
+    /** Adds as many notches as are told, one at each position in turn. */
+    private static PairedTumblers withNotches(int sum) {
+        PairedTumblers x = learnt("");
+        for (int i = 0; i < sum; i++) {
+            addOneNotch(x, i % 6);
+        }
+        return x;
+    }
+
     private void shares() {
-        PairedTumblers x = new PairedTumblers();
-        x.learn();
-        same("as in the secret", 6, x.count(5));
-        digestIs("with 6 as in the secret", x, 0, "");
-        for (int left = 5; left >= 0; left--) {
-            PairedTumblers y = new PairedTumblers();
-            y.learn();
-            for (int p = 5; p >= left; p--) {
-                addOneNotch(y, p);
-            }
-            same("as in the secret", left, y.count(5));
-            digestIs("with " + left + " as in the secret", y, 0, "");
+        for (int i = 0; i <= 6; i++) {
+            int other = i;
+            same("as in the secret", 6 - other, withNotches(other).count(5));
+            digestIs("with " + other + " other than in the secret", () -> withNotches(other), 0, "");
         }
     }
 
     private void means() {
-        for (int sum = 0; sum <= 24; sum++) {
-            PairedTumblers x = new PairedTumblers();
-            for (int i = 0; i < sum; i++) {
-                addOneNotch(x, i % 6);
-            }
-            same("notches", sum, notchSum(x));
-            digestIs("of " + sum + " notches", x, 0, "");
+        for (int i = 0; i <= 24; i++) {
+            int sum = i;
+            same("notches", sum, notchSum(withNotches(sum)));
+            digestIs("of " + sum + " notches", () -> withNotches(sum), 0, "");
         }
     }
 
     private void snapshots() {
+        digestIs("without a snapshot", Locks::fresh, 0, "");
+        digestIs("with a snapshot", () -> kept(""), 1, "");
+        digestIs("with a second one in its place", () -> kept("k"), 1, "");
+        digestIs("behind goBack()", () -> kept("tg"), 1, "");
+        digestIs("behind undo() of both", () -> kept("tguu"), 1, "");
+    }
+
+    /** Behind keep(): more calls, by their first letters. */
+    private static PairedTumblers kept(String calls) {
         PairedTumblers x = new PairedTumblers();
-        digestIs("without a snapshot", x, 0, "");
         x.keep();
-        digestIs("with a snapshot", x, 1, "");
-        x.keep();
-        digestIs("with a second one in its place", x, 1, "");
-        x.turn(0);
-        x.goBack();
-        digestIs("behind goBack()", x, 1, "");
-        x.undo();
-        x.undo();
-        digestIs("behind undo()", x, 1, "");
+        for (char call : calls.toCharArray()) {
+            switch (call) {
+                case 'k': x.keep(); break;
+                case 't': x.turn(0); break;
+                case 'g': x.goBack(); break;
+                default: x.undo(); break;
+            }
+        }
+        return x;
     }
 
     private void buffers() {
@@ -215,12 +259,16 @@ final class DigestSentences extends SentenceTests {
         for (char code = 33; code <= 126; code++) {
             all += code;
         }
-        digestIs("of the lowest codes", with(all.substring(0, 60)), 0, all.substring(0, 60));
-        digestIs("of the highest codes", with(all.substring(34)), 0, all.substring(34));
-        digestIs("of one code", with("~"), 0, "~");
-        PairedTumblers x = with("ab");
-        x.clearBuffer();
-        digestIs("of a buffer cleared", x, 0, "");
+        String lowest = all.substring(0, 60);
+        String highest = all.substring(34);
+        digestIs("of the lowest codes", () -> with(lowest), 0, lowest);
+        digestIs("of the highest codes", () -> with(highest), 0, highest);
+        digestIs("of one code", () -> with("~"), 0, "~");
+        digestIs("of a buffer cleared", () -> {
+            PairedTumblers x = with("ab");
+            x.clearBuffer();
+            return x;
+        }, 0, "");
         same("of another order", 0, with("ab").digest() == with("ba").digest() ? 1 : 0);
     }
 }

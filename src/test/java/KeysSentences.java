@@ -147,6 +147,10 @@ final class KeysSentences extends SentenceTests {
         same("both are freed", 0, x.stick(1));
         x.cut(0, 12, 1);
         same("all but one", 4, x.stick(1));
+        for (int p = 2; p < 6; p++) {
+            same("all", 5, x.stick(p));
+        }
+        same("all, with all positions stuck", 5, x.stick(0));
     }
 
     // ---- promise 8

@@ -111,7 +111,15 @@ final class LooksSentences extends SentenceTests {
             }
         });
         holds("5: how often it was turned, or turned back, so far", this::usesOfKeys);
-        holds("Returns the number.", () -> same("key(1, 1)", 2, fresh().key(1, 1)));
+        holds("Returns the number.", () -> {
+            int[][] due = {{11, 1, 15, 15, 0, 0}, {22, 2, 15, 15, 0, 0}, {44, 3, 15, 15, 0, 0}, {25, 4, 15, 15, 0, 0},
+                {50, 1, 15, 15, 0, 0}};
+            for (int k = 0; k < 5; k++) {
+                for (int what = 0; what <= 5; what++) {
+                    same("key(" + k + ", " + what + ")", due[k][what], fresh().key(k, what));
+                }
+            }
+        });
         holds("Throws `IndexOutOfBoundsException` if there is no such key", () -> {
             for (int key : new int[] {-1, 5, 6, LEAST, MOST}) {
                 refused("key(" + key + ", 0)", INDEX, Locks::busy, x -> x.key(key, 0));
@@ -467,6 +475,10 @@ final class LooksSentences extends SentenceTests {
         same("all", 5, x.count(7));
         x.cut(1, 24, 0);
         same("but one that is cut anew", 4, x.count(7));
+        for (int p = 2; p < 5; p++) {
+            x.stick(p);
+        }
+        same("all, with all positions stuck", 5, x.count(7));
     }
 
     private void openings() {

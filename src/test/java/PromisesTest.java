@@ -1,3 +1,4 @@
+import java.util.function.Supplier;
 import java.util.function.ToLongFunction;
 
 /** Each promise of the document by itself: ordinary inputs, the edges it names, wrong inputs; the answers reckoned by hand. */
@@ -876,7 +877,9 @@ public final class PromisesTest extends Locks {
         }
     }
 
-    private static void digestIs(String call, PairedTumblers x, int snapshots, String buffer) {
+    /** Each lock is made anew, since so many looks are nearly half of the calls that an object is good for. */
+    private static void digestIs(String call, Supplier<PairedTumblers> made, int snapshots, String buffer) {
+        PairedTumblers x = made.get();
         hash = 3769;
         addCounts(x);
         for (int first = 0; first < 5; first++) {
@@ -898,30 +901,42 @@ public final class PromisesTest extends Locks {
     }
 
     private static void digest() {
+        digestIs("of a new object", PairedTumblers::new, 0, "");
+        digestIs("with a snapshot", () -> {
+            PairedTumblers x = new PairedTumblers();
+            x.keep();
+            return x;
+        }, 1, "");
+        for (int i = 0; i <= 80; i++) {
+            int turns = i;
+            digestIs("behind " + turns + " turns", () -> busyBehind(turns), 1, "[a,!");
+        }
+        for (int i = 0; i < 5; i++) {
+            for (int positions : new int[] {3, 7, 15, 31, 63}) {
+                int strength = i;
+                digestIs("of shares", () -> {
+                    PairedTumblers x = new PairedTumblers();
+                    x.learn();
+                    x.cut(0, positions, strength);
+                    x.turn(0);
+                    return x;
+                }, 0, "");
+            }
+        }
+    }
+
+    private static PairedTumblers busyBehind(int turns) {
         PairedTumblers x = new PairedTumblers();
-        digestIs("of a new object", x, 0, "");
         x.learn();
-        digestIs("with a secret", x, 0, "");
         x.keep();
-        digestIs("with a snapshot", x, 1, "");
         write(x, "[a,!");
-        digestIs("with a buffer", x, 1, "[a,!");
-        for (int i = 0; i < 80; i++) {
+        for (int i = 0; i < turns; i++) {
             if (i % 3 == 0) {
                 x.back(i % 5);
             } else {
                 x.turn((i * 7) % 5);
             }
-            digestIs("behind " + i + " turns", x, 1, "[a,!");
         }
-        x.home();
-        for (int strength = 0; strength < 5; strength++) {
-            for (int positions : new int[] {3, 7, 15, 31, 63}) {
-                x.cut(0, positions, strength);
-                x.turn(0);
-                digestIs("of shares", x, 1, "[a,!");
-                x.undo();
-            }
-        }
+        return x;
     }
 }

@@ -1,3 +1,5 @@
+import java.util.function.ToLongFunction;
+
 /** "What it is" and "Terms", but for the texts of words. */
 final class TermsSentences extends SentenceTests {
     private static final String FIVE_HUNDRED = "((((ab)5)5)5)2";
@@ -536,6 +538,10 @@ final class TermsSentences extends SentenceTests {
         holds("If several exceptions apply, the one that is named first in the throws clause is thrown.",
             this::firstOfSeveral);
         holds("The constants: `NONE = -1`: There is nothing to return.", this::noneIsMinusOne);
+        holds("Ahead of the calls `at`, `key`, `pair`, `ofWord`, `count` the interface says: "
+            + "---- looks; nothing is changed.", this::looksChangeNothing);
+        holds("Ahead of the calls `openIn`, `ifTurned`, `closest`, `openShare`, `meanNotch`, `digest` the interface says: "
+            + "---- what would be; nothing is changed.", this::whatWouldBeChangesNothing);
     }
 
     private void throwingChangesNothing() {
@@ -558,12 +564,49 @@ final class TermsSentences extends SentenceTests {
     private void firstOfSeveral() {
         refused("word(), incomplete and too long", ARGUMENT, () -> busyWith(FIVE_HUNDRED + "a("), PairedTumblers::word);
         refused("cut(5, 0, 5)", INDEX, Locks::busy, x -> x.cut(5, 0, 5));
+        refused("cut(5, 1, 0)", INDEX, Locks::busy, x -> x.cut(5, 1, 0));
+        refused("cut(-1, 3, -1)", INDEX, Locks::busy, x -> x.cut(-1, 3, -1));
+        refused("cut(-1, 3, 5)", INDEX, Locks::busy, x -> x.cut(-1, 3, 5));
         refused("append(32) to 60", ARGUMENT, () -> busyWith("a".repeat(60)), x -> x.append(32));
         refused("at(6, 5)", INDEX, Locks::busy, x -> x.at(6, 5));
         refused("key(5, 6)", INDEX, Locks::busy, x -> x.key(5, 6));
         refused("pair(5, 0, 5)", INDEX, Locks::busy, x -> x.pair(5, 0, 5));
         refused("pair(0, -1, -1)", INDEX, Locks::busy, x -> x.pair(0, -1, -1));
         refused("ifTurned(5, 2)", INDEX, Locks::busy, x -> x.ifTurned(5, 2));
+    }
+
+    private void changesNothing(String call, ToLongFunction<PairedTumblers> looked) {
+        PairedTumblers x = begun();
+        looked.applyAsLong(x);
+        sameText("later calls behind " + call, later(begun()), later(x));
+    }
+
+    private void looksChangeNothing() {
+        for (int i = 0; i <= 9; i++) {
+            int what = i;
+            changesNothing("count(" + what + ")", x -> x.count(what));
+        }
+        for (int i = 0; i <= 5; i++) {
+            int what = i;
+            changesNothing("key(0, " + what + ")", x -> x.key(0, what));
+        }
+        for (int i = 0; i <= 4; i++) {
+            int what = i;
+            changesNothing("at(0, " + what + ")", x -> x.at(0, what));
+            changesNothing("pair(0, 4, " + what + ")", x -> x.pair(0, 4, what));
+            changesNothing("ofWord(" + what + ")", x -> x.ofWord(what));
+        }
+    }
+
+    private void whatWouldBeChangesNothing() {
+        changesNothing("openIn(0)", x -> x.openIn(0));
+        changesNothing("openIn(1)", x -> x.openIn(1));
+        changesNothing("ifTurned(3, 0)", x -> x.ifTurned(3, 0));
+        changesNothing("ifTurned(3, 1)", x -> x.ifTurned(3, 1));
+        changesNothing("closest()", PairedTumblers::closest);
+        changesNothing("openShare()", x -> (long) x.openShare());
+        changesNothing("meanNotch()", x -> (long) x.meanNotch());
+        changesNothing("digest()", PairedTumblers::digest);
     }
 
     private void noneIsMinusOne() {

@@ -103,8 +103,11 @@ final class TextTermsSentences extends SentenceTests {
         isNoWord("[a,b");
         isNoWord("a,b");
         isNoWord("a,b]");
+        isNoWord("[a,]");
+        isNoWord("[,b]");
         isNoWord("[a,b,c]");
-        isNoWord("[a,b)");
+        isNoWord("[a,b)2");
+        isNoWord("[a)2");
         isNoWord("[a,b]2");
     }
 
@@ -131,6 +134,12 @@ final class TextTermsSentences extends SentenceTests {
         mayFollow("(a", ITEMS + ")");
         mayFollow("(a)", FIGURES);
         mayFollow("(a)2", ITEMS);
+        mayFollow("a(", ITEMS);
+        mayFollow("a[", ITEMS);
+        mayFollow("(a[", ITEMS);
+        mayFollow("[a(", ITEMS);
+        mayFollow("[a,b(", ITEMS);
+        mayFollow("[a,b[", ITEMS);
         mayFollow("[", ITEMS);
         mayFollow("[a", ITEMS + ",");
         mayFollow("[a,", ITEMS);

@@ -76,24 +76,43 @@ final class WouldBeSentences extends SentenceTests {
         }
         y.back(0);
         opensIn("behind 5 turns back", y, -1, -1);
+        for (int k = 0; k < 5; k++) {
+            oneKeyOfFive(k, true);
+            oneKeyOfFive(k, false);
+        }
         onlyKeysThatTurn();
     }
 
-    private void onlyKeysThatTurn() {
-        PairedTumblers x = new PairedTumblers();
-        for (int k = 1; k < 5; k++) {
-            x.cut(k, 48, 0);
-        }
+    /** The other keys turn no notch, so that this one alone has to be turned as often the other way. */
+    private void oneKeyOfFive(int key, boolean back) {
+        PairedTumblers x = cutAlike(3, 0);
+        x.cut(key, 63, 1);
         x.learn();
-        doLetters(x, "aa");
-        opensIn("with key 0", x, 2, 5);
-        x.stick(3);
-        opensIn("with key 0 stuck", x, -1, -1);
-        x.stick(3);
-        x.stick(4);
-        opensIn("with the others stuck", x, 2, 5);
-        x.stick(1);
-        opensIn("with all stuck", x, -1, -1);
+        for (int n = 1; n <= 4; n++) {
+            doLetters(x, "" + (char) ((back ? 'A' : 'a') + key));
+            opensIn("behind " + n + " turns of key " + key, x, n, back ? key : 5 + key);
+        }
+        doLetters(x, "" + (char) ((back ? 'A' : 'a') + key));
+        opensIn("behind 5 turns of key " + key, x, -1, -1);
+    }
+
+    private void onlyKeysThatTurn() {
+        PairedTumblers x = cutAlike(48, 0);
+        x.cut(0, 11, 1);
+        x.learn();
+        for (int n = 1; n <= 4; n++) {
+            x.turn(0);
+            opensIn("with key 0", x, n, 5);
+            x.stick(3);
+            opensIn("with key 0 stuck", x, -1, -1);
+            x.stick(3);
+            x.stick(4);
+            opensIn("with the others stuck", x, n, 5);
+            x.stick(1);
+            opensIn("with all stuck", x, -1, -1);
+            x.stick(1);
+            x.stick(4);
+        }
     }
 
     private void firstTurn() {
@@ -167,7 +186,9 @@ final class WouldBeSentences extends SentenceTests {
             x.learn();
             x.turn(2);
             same("all by turning it back", 6, x.ifTurned(2, 1));
+            same("all by it once more", 6, x.ifTurned(2, 1));
             same("three by turning it on", 3, x.ifTurned(2, 0));
+            stands("ifTurned()", x, 15243, 3303);
             same("nothing is turned", 1, x.count(0));
             same("nothing is saved", 2, x.count(9));
         });
