@@ -1,11 +1,18 @@
+import java.io.IOException;
 import java.lang.reflect.Constructor;
 import java.lang.reflect.Field;
 import java.lang.reflect.Member;
 import java.lang.reflect.Method;
 import java.lang.reflect.Modifier;
+import java.nio.file.Files;
+import java.nio.file.Path;
+import java.util.ArrayList;
 import java.util.Arrays;
+import java.util.List;
 import java.util.Set;
 import java.util.TreeSet;
+import java.util.regex.Matcher;
+import java.util.regex.Pattern;
 import java.util.stream.Collectors;
 
 /** The face is the document's, to the letter, and nothing else can be seen from outside (LANGUAGE.md, rule 1). */
@@ -40,13 +47,14 @@ public final class FaceTest {
 
     private static final Checks checks = new Checks("face");
 
-    public static void main(String[] args) {
+    public static void main(String[] args) throws IOException {
         Class<?> face = PairedTumblers.class;
         same("the class is public and final", Modifier.PUBLIC | Modifier.FINAL, face.getModifiers());
         same("no package", 1, face.getPackageName().isEmpty() ? 1 : 0);
         methods(face);
         others(face);
         inside(face);
+        written();
         checks.end();
     }
 
@@ -117,5 +125,67 @@ public final class FaceTest {
                 staticIsFinal(f);
             }
         }
+    }
+
+    // ---- the face as the document and the source write it, with the parameters' names, in its order
+
+    private static void written() throws IOException {
+        List<String> document = Files.readAllLines(Path.of("../shared/DOC.md"));
+        List<String> due = faceOf(document);
+        List<String> source = new ArrayList<>();
+        for (String line : Files.readAllLines(Path.of("src/main/java/PairedTumblers.java"))) {
+            if (line.startsWith("    public ") || line.startsWith("    // ---- ")) {
+                source.add(line.trim().replaceFirst("( \\{|;)$", ""));
+            }
+        }
+        List<String> signatures = new ArrayList<>(source);
+        signatures.removeIf(line -> line.startsWith("//"));
+        checks.sameText("the face in the source", String.join("\n", due), String.join("\n", signatures));
+        promised(document, due);
+        saidAhead(document, source);
+    }
+
+    private static List<String> faceOf(List<String> document) {
+        List<String> face = new ArrayList<>();
+        int begin = document.indexOf("public final class PairedTumblers {");
+        for (int i = begin + 1; !document.get(i).equals("}"); i++) {
+            face.add(document.get(i).trim().replaceFirst(";$", ""));
+        }
+        return face;
+    }
+
+    /** Each promise begins with the signature that the face has, one promise after the other in the face's order. */
+    private static void promised(List<String> document, List<String> face) {
+        List<String> promises = new ArrayList<>();
+        promises.add("public static final int NONE = -1");
+        for (int i = 0; i < document.size(); i++) {
+            if (document.get(i).startsWith("## Promise ")) {
+                promises.add("public " + document.get(i + 2).split("`")[1]);
+            }
+        }
+        checks.sameText("the promises' signatures", String.join("\n", face), String.join("\n", promises));
+    }
+
+    /** The calls between a heading in the source and the next one are those that the document names with it. */
+    private static void saidAhead(List<String> document, List<String> source) {
+        int said = 0;
+        for (String line : document) {
+            Matcher ahead = Pattern.compile("Ahead of the calls (.*) the interface says: (---- .*)\\.").matcher(line);
+            if (ahead.matches()) {
+                said++;
+                String due = ahead.group(1).replace("`", "");
+                checks.sameText("the calls behind " + ahead.group(2), due, callsBehind(source, "// " + ahead.group(2)));
+            }
+        }
+        same("headings of the interface", 5, said);
+    }
+
+    private static String callsBehind(List<String> source, String heading) {
+        List<String> names = new ArrayList<>();
+        int at = source.indexOf(heading);
+        for (int i = at + 1; at >= 0 && i < source.size() && source.get(i).startsWith("public "); i++) {
+            names.add(source.get(i).replaceFirst("\\(.*", "").replaceFirst(".* ", ""));
+        }
+        return String.join(", ", names);
     }
 }

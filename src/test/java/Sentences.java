@@ -81,7 +81,7 @@ final class Sentences {
         return sentences;
     }
 
-    /** A signature is FaceTest's, and comments in an interface can not be called. */
+    /** A signature is FaceTest's, and so is what the interface says ahead of the calls. */
     private static String[] sentencesOf(String line) {
         if (line.startsWith("Ahead of the calls ")) {
             return new String[0];
